@@ -265,6 +265,7 @@ public final class PromiseScales {
         }
         int best = 0;
         int most = -1;
+        // By 0 all are kept, so that nothing beats it; yet all are looked at, as the document tells it.
         for (int h = 0; h <= WHOLE; h++) {
             trial.become(now);
             trial.settleByDays(h);
@@ -366,8 +367,8 @@ public final class PromiseScales {
         if (!isPromise(promise) || !isEither(what)) {
             return BAD;
         }
-        asks.begin();
-        return what == 0 ? asks.sizeOf(now, promise) : asks.markOf(now, promise);
+        asks.turnTo(now, promise);
+        return what == 0 ? asks.size() : asks.mark();
     }
 
     public int trace(int i) {
@@ -815,15 +816,15 @@ public final class PromiseScales {
             if (isSettled(p)) {
                 return settledOf[p] == KEPT ? WHOLE : 0;
             }
-            return weightBy(p, kindOf[p], before);
+            return weightIf(p, kindOf[p], before);
         }
 
         /** What a promise that is not settled weighs, were it of a kind. */
         int weightBy(int p, int kind) {
-            return weightBy(p, kind, p == 0 ? 0 : weightOf(p - 1));
+            return weightIf(p, kind, p == 0 ? 0 : weightOf(p - 1));
         }
 
-        private int weightBy(int p, int kind, int before) {
+        private int weightIf(int p, int kind, int before) {
             int plain = plainWeight(p, keeping[giverOf[p]]);
             switch (kind) {
                 case IF: return p == 0 ? plain : plain * before / WHOLE;
@@ -918,7 +919,6 @@ public final class PromiseScales {
         final int[] promiseOf = new int[MOST];
         final int[] waxOf = new int[MOST];
         final int[] panOf = new int[MOST];
-        final int[] settledOf = new int[MOST];
         final int[] keepsOf = new int[MOST];
         int oldest;
         int kept;
@@ -938,7 +938,6 @@ public final class PromiseScales {
             waxOf[at] = scales.wax;
             panOf[at] = scales.pan;
             if (promise != NO_PROMISE) {
-                settledOf[at] = scales.settledOf[promise];
                 keepsOf[at] = scales.keeping[scales.giverOf[promise]];
             }
             kept++;
@@ -954,7 +953,8 @@ public final class PromiseScales {
             scales.wax = waxOf[at];
             scales.pan = panOf[at];
             if (promise != NO_PROMISE) {
-                scales.settledOf[promise] = settledOf[at];
+                // One that is settled is in no act any more, so it was not before this one.
+                scales.settledOf[promise] = UNSETTLED;
                 scales.keeping[scales.giverOf[promise]] = keepsOf[at];
             }
         }
@@ -1055,22 +1055,38 @@ public final class PromiseScales {
     }
 
     /**
-     * What promises answer when asked, body by body, and the trace of it. Which body begins within
-     * another hangs on the promise's own kind; plain ones and oaths part ways first, so that no
-     * body comes back to itself.
+     * What promises answer when asked, and which bodies begin by it. Plain ones and oaths part ways
+     * at once, and a body that takes in what another gives leaves its number ahead of that one's.
      */
     private static final class Asks {
         static final int MOST = 16;
 
         private final int[] bodies = new int[MOST];
         private int begun;
+        private int kind;
+        private int number;
+        private int likely;
+        private int weight;
 
-        void begin() {
+        /** What is asked from now on is asked of this promise; the trace is empty. */
+        void turnTo(Scales scales, int p) {
             begun = 0;
+            kind = scales.kindOf[p];
+            number = p;
+            likely = scales.likelyOf[p];
+            weight = scales.weightOf(p);
         }
 
         int bodyAt(int i) {
             return i >= 0 && i < begun ? bodies[i] : NONE;
+        }
+
+        int size() {
+            return isOfKind(kind, OATH) ? sizeOfOath() : sizeOfPlain();
+        }
+
+        int mark() {
+            return isOfKind(kind, OATH) ? markOfOath() : markOfPlain();
         }
 
         private void enter(int body) {
@@ -1080,79 +1096,45 @@ public final class PromiseScales {
             }
         }
 
-        int sizeOf(Scales scales, int p) {
-            if (isOfKind(scales.kindOf[p], OATH)) {
-                return sizeOfOath(scales, p);
+        private int sizeOfPlain() {
+            if (kind == IF) {
+                enter(12);
             }
-            return scales.kindOf[p] == IF ? body12(scales, p) : body11(scales, p);
-        }
-
-        private int sizeOfOath(Scales scales, int p) {
-            return scales.kindOf[p] == ABOUT ? body14(scales, p) : body13(scales, p);
-        }
-
-        int markOf(Scales scales, int p) {
-            return isOfKind(scales.kindOf[p], OATH) ? body23(scales, p) : markOfPlain(scales, p);
-        }
-
-        private int markOfPlain(Scales scales, int p) {
-            switch (scales.kindOf[p]) {
-                case IF: return body24(scales, p);
-                case TWICE: return body22(scales, p);
-                default: return body21(scales, p);
-            }
-        }
-
-        private int body10(Scales scales, int p) {
-            enter(10);
-            return scales.likelyOf[p];
-        }
-
-        private int body11(Scales scales, int p) {
             enter(11);
-            int size = body10(scales, p);
-            return size + markOfPlain(scales, p);
+            enter(10);
+            int size = likely + markOfPlain();
+            return kind == IF ? -size : size;
         }
 
-        private int body12(Scales scales, int p) {
-            enter(12);
-            return -body11(scales, p);
-        }
-
-        private int body13(Scales scales, int p) {
-            enter(13);
-            return body10(scales, p) - 100;
-        }
-
-        private int body14(Scales scales, int p) {
-            enter(14);
-            return 2 * body13(scales, p);
-        }
-
-        private int body20(int p) {
-            enter(20);
-            return p;
-        }
-
-        private int body21(Scales scales, int p) {
+        private int markOfPlain() {
+            if (kind == IF) {
+                enter(24);
+            } else if (kind == TWICE) {
+                enter(22);
+            }
             enter(21);
-            return body20(p) + scales.weightOf(p);
+            enter(20);
+            int mark = number + weight;
+            if (kind == IF) {
+                return 2 * mark;
+            }
+            return kind == TWICE ? mark - 1000 : mark;
         }
 
-        private int body22(Scales scales, int p) {
-            enter(22);
-            return body21(scales, p) - 1000;
+        private int sizeOfOath() {
+            if (kind == ABOUT) {
+                enter(14);
+            }
+            enter(13);
+            enter(10);
+            int size = likely - 100;
+            return kind == ABOUT ? 2 * size : size;
         }
 
-        private int body23(Scales scales, int p) {
+        private int markOfOath() {
             enter(23);
-            int mark = body20(p);
-            return mark - sizeOfOath(scales, p);
-        }
-
-        private int body24(Scales scales, int p) {
-            enter(24);
-            return 2 * body21(scales, p);
+            enter(20);
+            return number - sizeOfOath();
         }
     }
 }

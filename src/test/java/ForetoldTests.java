@@ -26,6 +26,8 @@ public final class ForetoldTests {
         promise26();
         promise27And28();
         nothingChanges();
+        eightAndThenFewer();
+        bagsOfOtherScales();
         check.end();
     }
 
@@ -164,6 +166,7 @@ public final class ForetoldTests {
     private static void promise21() {
         PromiseScales x = Check.told(SEVEN);
         check.due("60, 40, 70, 20", x.prices(0, 100), 190);
+        check.due("by 0", x.prices(0, 0), 0);
         check.due("each is cut: 4, 2, 4, 1", x.prices(0, 7), 11);
         check.due("15, 30, 40", x.prices(1, 100), 85);
         x.settle(0, 1);
@@ -425,5 +428,57 @@ public final class ForetoldTests {
         check.due("acts", x.count(7), 2);
         check.due("kind", x.kind(0), 1);
         check.due("not settled", x.promise(4, 5), 0);
+    }
+
+    /** As many promises as there can be, and then, in their place, fewer. */
+    private static void eightAndThenFewer() {
+        PromiseScales x = Check.told("s0,1;g10;p0,0,0,1;p0,0,1,2;p0,0,2,4;p0,0,3,8;p0,0,4,16;p0,0,5,0;p0,0,6,0;p0,1,6,3;");
+        check.due("6 and 7", x.clash(0), 1);
+        check.due("the first", x.clash(1), 55);
+        check.due("all read", x.reads(255), 34);
+        check.due("31: 0 to 4, with 5, 6 or not; 2, 3, 4, 7, with 5 or not", x.bags(31, 0), 6);
+        check.due("31: fewest", x.bags(31, 1), 4 + 8 + 16 + 128);
+        check.due("heaviest", x.heaviest(8, 0), 34);
+        check.due("which", x.heaviest(8, 1), 31 + 128);
+        check.due("prices", x.prices(0, 20), 34);
+        check.due("all kept", x.settles(0, 0, 1), 8);
+        check.due("none kept", x.settles(0, 20, 0), 2);
+        Check.put(x, 0, 1, 2, 4, 8, 16, 0, 0, 3);
+        check.due("by 10", x.keepsFound(0, 0, 0), 1024);
+        check.due("not from the next", x.keepsFound(0, 0, 1), PLACE);
+        x.settle(7, 1);
+        Check.tell(x, "s0,1;g10;p0,1,6,5;");
+        check.due("no pairs", x.clash(0), 0);
+        check.due("the first alone", x.reads(1), 5);
+        check.due("no second", x.reads(2), BAD);
+        check.due("5 of one", x.bags(5, 0), 1);
+        check.due("0 of one", x.bags(0, 0), 1);
+        check.due("heaviest of one", x.heaviest(8, 0), 5);
+        check.due("prices of one", x.prices(0, 20), 5);
+        check.due("one kept", x.settles(0, 0, 1), 1);
+        check.due("one broken", x.settles(0, 20, 0), 9);
+        x.set(0, 7, 5);
+        check.due("one found", x.keepsFound(0, 0, 7), 1024);
+        PromiseScales y = Check.told("s0,1;g10;p0,0,0,1;p0,0,1,1;p0,0,2,1;p0,0,3,1;p0,0,4,1;p0,0,5,1;p0,0,6,1;p0,0,7,1;");
+        check.due("the set of all", y.bags(8, 1), 255);
+        check.due("and no other", y.bags(8, 0), 1);
+        check.due("eight ones are heaviest", y.heaviest(8, 1), 255);
+        check.due("seven of them", y.heaviest(7, 1), 127);
+    }
+
+    /** What clashes or is settled in scales is not so in others, or when it is undone. */
+    private static void bagsOfOtherScales() {
+        PromiseScales x = Check.told("s0,1;g10;p0,0,0,2;p0,1,0,2;p0,1,1,2;");
+        check.due("0 and 2; 1 and 2", x.bags(4, 0), 2);
+        x.settle(2, 1);
+        check.due("none without 2", x.bags(4, 0), 0);
+        x.undo();
+        check.due("undone", x.bags(4, 0), 2);
+        x.settle(0, 1);
+        check.due("1 and 2", x.bags(4, 0), 1);
+        check.due("it is told", x.bags(4, 1), 6);
+        Check.tell(x, "s0,1;g10;p0,0,0,2;p0,0,0,2;p0,1,1,2;");
+        check.due("0 and 1, 0 and 2, 1 and 2", x.bags(4, 0), 3);
+        check.due("all", x.heaviest(3, 1), 7);
     }
 }
