@@ -1,13 +1,27 @@
-/** Counts the answers that are due and those that are not, and tells of the latter. */
+/**
+ * Counts the answers that are due and those that are not, and tells of the latter by which sentence
+ * of the document they are due. DocumentTests looks up that each sentence is told by a test.
+ */
 final class Check {
     private static final int TOLD_AT_MOST = 40;
 
     private final String name;
+    private String sentence = "";
     private int right;
     private int wrong;
 
     Check(String name) {
         this.name = name;
+    }
+
+    /** The answers from here on are due by this sentence of a part (0 to 4) of "Terms". */
+    void terms(int part, String words) {
+        sentence = "Terms " + part + ", \"" + words + "\": ";
+    }
+
+    /** The answers from here on are due by this sentence of a promise. */
+    void promise(int number, String words) {
+        sentence = "Promise " + number + ", \"" + words + "\": ";
     }
 
     void due(String call, long got, long want) {
@@ -17,7 +31,7 @@ final class Check {
         }
         wrong++;
         if (wrong <= TOLD_AT_MOST) {
-            System.out.println(name + ": " + call + " answered " + got + ", due is " + want);
+            System.out.println(name + ": " + sentence + call + " answered " + got + ", due is " + want);
         }
     }
 

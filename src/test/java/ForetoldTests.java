@@ -31,10 +31,35 @@ public final class ForetoldTests {
         check.end();
     }
 
+    /** A call with these numbers, of which the last tells what is asked. */
+    private interface Call {
+        int by(PromiseScales x, int n, int what);
+    }
+
+    /** STATE without scales, whatever the numbers; with scales BAD just outside, and far off. */
+    private static void refusedOutside(int least, int most, Call call) {
+        PromiseScales without = new PromiseScales();
+        PromiseScales x = Check.told(SEVEN);
+        for (int n : new int[] {least - 1, most + 1, MIN, MAX}) {
+            check.due("no scales, ahead of BAD by " + n, call.by(without, n, 0), STATE);
+            check.due("no such number " + n, call.by(x, n, 0), BAD);
+            check.due("no such number, asked the other", call.by(x, n, 1), BAD);
+        }
+        for (int what : NO_SIDES) {
+            check.due("no scales, ahead of BAD of " + what, call.by(without, least, what), STATE);
+            check.due("no such thing of the least " + what, call.by(x, least, what), BAD);
+            check.due("no such thing of the most " + what, call.by(x, most, what), BAD);
+        }
+        for (int what = 0; what <= 1; what++) {
+            check.due("no scales", call.by(without, most, what), STATE);
+            check.holds("the least is one", call.by(x, least, what) >= 0);
+            check.holds("the most is one", call.by(x, most, what) >= NONE);
+        }
+    }
+
     private static void promise16() {
-        PromiseScales x = new PromiseScales();
-        check.due("no scales, ahead of BAD", x.clash(2), STATE);
-        Check.tell(x, SEVEN);
+        check.promise(16, "CLASH: how many (what = 0), the first (1; NONE).");
+        PromiseScales x = Check.told(SEVEN);
         check.due("pairs", x.clash(0), 3);
         check.due("the first, 0 and 1", x.clash(1), 1);
         x.settle(0, 1);
@@ -45,9 +70,6 @@ public final class ForetoldTests {
         x.settle(3, 0);
         check.due("no pairs", x.clash(0), 0);
         check.due("no first", x.clash(1), NONE);
-        for (int what : NO_SIDES) {
-            check.due("no such thing " + what, x.clash(what), BAD);
-        }
         String two = "s0,1;g5;g5;";
         check.due("two days", Check.told(two + "p0,0,1,5;p0,1,2,5;").clash(0), 0);
         check.due("two givers", Check.told(two + "p0,0,1,5;p1,1,1,5;").clash(0), 0);
@@ -55,12 +77,18 @@ public final class ForetoldTests {
         check.due("unlike kinds, unlike deeds", Check.told(two + "t1,3,1,0;m1,4,1,0;").clash(0), 1);
         check.due("three of a day", Check.told(two + "p1,3,1,0;p1,4,1,0;p1,5,1,0;").clash(0), 3);
         check.due("none at all", Check.told("s0,1;").clash(1), NONE);
+        check.promise(16, "BAD; STATE: no SCALES (ahead of BAD).");
+        for (int what : NO_SIDES) {
+            check.due("no such thing " + what, x.clash(what), BAD);
+            check.due("no scales, ahead of BAD " + what, new PromiseScales().clash(what), STATE);
+        }
+        check.due("no scales", new PromiseScales().clash(0), STATE);
+        check.due("no scales, no first", new PromiseScales().clash(1), STATE);
     }
 
     private static void promise17() {
-        PromiseScales x = new PromiseScales();
-        check.due("no scales, ahead of BAD", x.bags(-1, 2), STATE);
-        Check.tell(x, SEVEN);
+        check.promise(17, "BAGS: how many (what = 0), the one with fewest (1); NONE.");
+        PromiseScales x = Check.told(SEVEN);
         check.due("0: the empty one", x.bags(0, 0), 1);
         check.due("0: it", x.bags(0, 1), 0);
         check.due("6: 5, or 2 alone has 3; 2 and 5; 3", x.bags(6, 0), 2);
@@ -70,12 +98,6 @@ public final class ForetoldTests {
         check.due("200: none", x.bags(200, 0), 0);
         check.due("30", x.bags(30, 0), 7);
         check.due("30: fewest, least", x.bags(30, 1), 21);
-        for (int v : new int[] {-1, 201, MIN, MAX}) {
-            check.due("no such v " + v, x.bags(v, 0), BAD);
-        }
-        for (int what : NO_SIDES) {
-            check.due("no such thing " + what, x.bags(0, what), BAD);
-        }
         PromiseScales y = Check.told("s0,1;g10;p0,0,0,5;p0,0,1,3;p0,0,2,2;p0,0,3,5;p0,1,3,0;");
         check.due("5: 0; 3; 1 and 2; 0 and 4; 1, 2 and 4", y.bags(5, 0), 5);
         check.due("5: fewest", y.bags(5, 1), 1);
@@ -89,22 +111,17 @@ public final class ForetoldTests {
         PromiseScales z = Check.told("s9,5;");
         check.due("wax alone, less 4", z.bags(5, 0), 1);
         check.due("wax alone, not 9", z.bags(9, 1), NONE);
+        check.promise(17, "BAD: v not 0 to 200, what; STATE: no SCALES (ahead of BAD).");
+        refusedOutside(0, 200, (one, v, what) -> one.bags(v, what));
     }
 
     private static void promise18() {
-        PromiseScales x = new PromiseScales();
-        check.due("no scales, ahead of BAD", x.heaviest(9, 2), STATE);
-        Check.tell(x, SEVEN);
+        check.promise(18, "HEAVIEST of n (0 to 8): what it READS (what = 0), which (1).");
+        PromiseScales x = Check.told(SEVEN);
         int[][] want = {{0, 0}, {15, 16}, {27, 17}, {36, 81}, {42, 89}, {45, 121}, {45, 121}, {45, 121}, {45, 121}};
         for (int n = 0; n <= 8; n++) {
             check.due("heaviest of " + n, x.heaviest(n, 0), want[n][0]);
             check.due("which of " + n, x.heaviest(n, 1), want[n][1]);
-        }
-        for (int n : new int[] {-1, 9, MIN, MAX}) {
-            check.due("no such n " + n, x.heaviest(n, 0), BAD);
-        }
-        for (int what : NO_SIDES) {
-            check.due("no such thing " + what, x.heaviest(1, what), BAD);
         }
         x.settle(4, 1);
         check.due("a settled one is in none: 12 and 2", x.heaviest(1, 0), 15);
@@ -114,6 +131,8 @@ public final class ForetoldTests {
         check.due("the least of those", y.heaviest(8, 1), 1);
         check.due("none at all", Check.told("s9,2;").heaviest(8, 0), 8);
         check.due("the empty one", Check.told("s9,2;").heaviest(8, 1), 0);
+        check.promise(18, "BAD; STATE: no SCALES (ahead of BAD).");
+        refusedOutside(0, 8, (one, n, what) -> one.heaviest(n, what));
     }
 
     private static void words(PromiseScales x, int promise, int... want) {
@@ -123,6 +142,7 @@ public final class ForetoldTests {
     }
 
     private static void promise19() {
+        check.promise(19, "WORDED: WEIGHT by a KIND (1 to 5), the best KIND (kind = 0).");
         PromiseScales x = Check.told(SEVEN);
         words(x, 0, 4, 12, 12, 6, 20, 20);
         words(x, 1, 4, 14, 8, 7, 20, 8);
@@ -134,6 +154,10 @@ public final class ForetoldTests {
         words(y, 2, 1, 0, 0, 0, 0, 0);
         y.settle(1, 0);
         words(y, 2, 5, 0, 0, 0, 0, 20);
+        check.promise(19, "BAD; STATE: it is SETTLED.");
+        check.due("no scales", new PromiseScales().worded(0, 1), BAD);
+        y.settle(0, 1);
+        check.due("settled and kept", y.worded(0, 5), STATE);
         check.due("settled", y.worded(1, 1), STATE);
         check.due("settled, the best", y.worded(1, 0), STATE);
         for (int promise : new int[] {-1, 7, 8, MIN, MAX}) {
@@ -146,6 +170,7 @@ public final class ForetoldTests {
     }
 
     private static void promise20() {
+        check.promise(20, "PRICE of a PROMISE.");
         PromiseScales x = Check.told(SEVEN);
         check.due("999 by 12", x.price(0, 999), 599);
         check.due("0", x.price(0, 0), 0);
@@ -155,6 +180,8 @@ public final class ForetoldTests {
         x.settle(1, 0);
         check.due("kept", x.price(0, 999), 999);
         check.due("broken", x.price(1, 999), 0);
+        check.promise(20, "BAD.");
+        check.due("no scales", new PromiseScales().price(0, 1), BAD);
         for (int promise : new int[] {-1, 7, MIN, MAX}) {
             check.due("no such promise " + promise, x.price(promise, 1), BAD);
         }
@@ -164,6 +191,7 @@ public final class ForetoldTests {
     }
 
     private static void promise21() {
+        check.promise(21, "PRICE of a GIVER.");
         PromiseScales x = Check.told(SEVEN);
         check.due("60, 40, 70, 20", x.prices(0, 100), 190);
         check.due("by 0", x.prices(0, 0), 0);
@@ -171,16 +199,21 @@ public final class ForetoldTests {
         check.due("15, 30, 40", x.prices(1, 100), 85);
         x.settle(0, 1);
         check.due("16, 14 and 4: settled ones do not count", x.prices(0, 100), 80 + 70 + 20);
+        check.due("one who gave none", Check.told("s0,1;g4;").prices(0, 999), 0);
+        check.due("the most of all", Check.told("s0,1;g10;" + "p0,0,0,20;".repeat(8)).prices(0, 999), 7992);
+        check.promise(21, "BAD.");
+        check.due("no scales", new PromiseScales().prices(0, 1), BAD);
+        check.due("no givers", Check.told("s0,1;").prices(0, 1), BAD);
         for (int giver : new int[] {-1, 2, MIN, MAX}) {
             check.due("no such giver " + giver, x.prices(giver, 1), BAD);
         }
         for (int v : new int[] {-1, 1000, MIN, MAX}) {
             check.due("no such v " + v, x.prices(0, v), BAD);
         }
-        check.due("one who gave none", Check.told("s0,1;g4;").prices(0, 999), 0);
     }
 
     private static void promise22() {
+        check.promise(22, "SETTLES: KEEPS (what = 0), how many are KEPT (1).");
         PromiseScales x = Check.told(SEVEN);
         check.due("all kept", x.settles(0, 0, 0), 10);
         check.due("four", x.settles(0, 0, 1), 4);
@@ -201,6 +234,10 @@ public final class ForetoldTests {
         check.due("by 10: 1 (10), then 0 (10)", y.settles(0, 10, 1), 2);
         check.due("by 11: neither", y.settles(0, 11, 1), 0);
         check.due("by 11 keeps", y.settles(0, 11, 0), 3);
+        check.promise(22, "BAD.");
+        check.due("no scales", new PromiseScales().settles(0, 1, 0), BAD);
+        check.holds("h 0", x.settles(0, 0, 0) >= 0);
+        check.holds("h 20", x.settles(1, 20, 1) >= 0);
         for (int giver : new int[] {-1, 2, MIN, MAX}) {
             check.due("no such giver " + giver, x.settles(giver, 1, 0), BAD);
         }
@@ -213,12 +250,10 @@ public final class ForetoldTests {
     }
 
     private static void promise23() {
+        check.promise(23, "BEST h.");
         PromiseScales x = Check.told(SEVEN);
         check.due("the first", x.bestHeavy(0), 0);
         check.due("the second", x.bestHeavy(1), 0);
-        for (int giver : new int[] {-1, 2, MIN, MAX}) {
-            check.due("no such giver " + giver, x.bestHeavy(giver), BAD);
-        }
         check.due("one who gave none", Check.told("s0,1;g4;").bestHeavy(0), 0);
         // By 0 all are kept, so that no h can be better, and it is the least of all.
         check.due("of several the least", Check.told("s0,1;g5;g5;p1,0,0,20;m0,0,1,0;").bestHeavy(0), 0);
@@ -230,9 +265,16 @@ public final class ForetoldTests {
         check.due("by 0: kept, kept, kept", z.settles(0, 0, 0), 3);
         check.due("by 1: broken, broken, kept (20)", z.settles(0, 1, 0), 1);
         check.due("3 by 0 alone", z.bestHeavy(0), 0);
+        check.promise(23, "BAD.");
+        check.due("no scales", new PromiseScales().bestHeavy(0), BAD);
+        check.due("no givers", Check.told("s0,1;").bestHeavy(0), BAD);
+        for (int giver : new int[] {-1, 2, MIN, MAX}) {
+            check.due("no such giver " + giver, x.bestHeavy(giver), BAD);
+        }
     }
 
     private static void promise24() {
+        check.promise(24, "FOUND by n sets (1 to 8), two ITEMS each, of a ROW from i on: WAXES (what = 0), STICKS (1).");
         PromiseScales x = Check.told(SEVEN);
         Check.put(x, 0, 0, 0, 1, 12, 2, 9, 3, 21, 9, 9);
         check.due("wax: 0 reads 0 by 0, 1, 2", x.found(0, 0, 1, 0), 7);
@@ -262,10 +304,14 @@ public final class ForetoldTests {
     }
 
     private static void promise24Refusals() {
+        check.promise(24, "BAD: ROW, n, what; STATE: no SCALES (ahead of BAD); NULL; PLACE; then BAD: no set of PROMISES.");
         PromiseScales x = new PromiseScales();
         check.due("no scales, ahead of BAD", x.found(-1, 0, 0, 2), STATE);
-        Check.tell(x, SEVEN);
+        check.due("no scales, ahead of NULL", x.found(0, 0, 1, 0), STATE);
         x.row(0, 2, 16);
+        check.due("no scales, ahead of PLACE", x.found(0, 16, 1, 0), STATE);
+        check.due("no scales", x.found(0, 0, 8, 1), STATE);
+        Check.tell(x, SEVEN);
         for (int row : new int[] {-1, 8, MIN, MAX}) {
             check.due("no such row " + row, x.found(row, 0, 1, 0), BAD);
         }
@@ -284,6 +330,16 @@ public final class ForetoldTests {
             check.due("no such place " + place, x.found(0, place, 1, 0), PLACE);
         }
         check.due("beyond the end", x.found(0, 1, 8, 0), PLACE);
+        check.due("the last that fits", x.found(0, 14, 1, 0), 7);
+        check.due("PLACE at an end of none", noItems(x), PLACE);
+        x.row(2, 0, 15);
+        check.due("one item less than eight take", x.found(2, 0, 8, 0), PLACE);
+        check.due("seven fit", x.found(2, 1, 7, 0), 7);
+        x.row(2, 0, 40);
+        check.due("eight at the end of 40", x.found(2, 24, 8, 0), 7);
+        check.due("eight beyond the end of 40", x.found(2, 25, 8, 0), PLACE);
+        x.set(2, 24, 128);
+        check.due("a byte of -128 is no set", x.found(2, 24, 1, 0), BAD);
         x.set(0, 4, 128);
         check.due("no such set", x.found(0, 4, 1, 0), BAD);
         check.due("no such set among others", x.found(0, 0, 8, 1), BAD);
@@ -297,7 +353,14 @@ public final class ForetoldTests {
         check.due("it never reads so", x.found(0, 4, 1, 0), 0);
     }
 
+    private static int noItems(PromiseScales x) {
+        x.row(2, 2, 0);
+        return x.found(2, 0, 1, 0);
+    }
+
     private static void promise25() {
+        check.promise(25, "KEEPS FOUND, as many ITEMS as the GIVER has plain PROMISES (KIND 1, as told) "
+            + "that are not SETTLED, of a ROW from i on.");
         PromiseScales x = Check.told(SEVEN);
         Check.put(x, 0, 12, 4, 8, 9, 3);
         check.due("12 and 4 by 7", x.keepsFound(0, 0, 0), 128);
@@ -305,6 +368,8 @@ public final class ForetoldTests {
         check.due("9 of 20 by none", x.keepsFound(1, 0, 3), 0);
         check.due("9 and 3 by 5", x.keepsFound(0, 0, 3), 32);
         check.due("12, 4: not in that order", x.keepsFound(0, 0, 1), 0);
+        check.promise(25, "BAD: GIVER, ROW; NULL; PLACE (with none of them, too, "
+            + "if i is below 0 or above how many ITEMS there are).");
         check.due("at the end", x.keepsFound(0, 0, 4), PLACE);
         check.due("at the end, one", x.keepsFound(1, 0, 4), 0);
         check.due("beyond it", x.keepsFound(1, 0, 5), PLACE);
@@ -314,6 +379,16 @@ public final class ForetoldTests {
         check.due("none: all", x.keepsFound(0, 0, 0), 2047);
         check.due("none, at the end", x.keepsFound(0, 0, 5), 2047);
         check.due("none, beyond it", x.keepsFound(0, 0, 6), PLACE);
+        check.due("no scales", new PromiseScales().keepsFound(0, 0, 0), BAD);
+        x.row(2, 0, 0);
+        check.due("none, of no items", x.keepsFound(0, 2, 0), 2047);
+        check.due("none, beyond no items", x.keepsFound(0, 2, 1), PLACE);
+        check.due("one, of no items", x.keepsFound(1, 2, 0), PLACE);
+        x.row(2, 0, 40);
+        check.due("none, at the end of 40", x.keepsFound(0, 2, 40), 2047);
+        check.due("none, beyond 40", x.keepsFound(0, 2, 41), PLACE);
+        check.due("one, the last of 40: 0 of 20 by 0", x.keepsFound(1, 2, 39), 1);
+        check.due("one, behind 40", x.keepsFound(1, 2, 40), PLACE);
         for (int place : new int[] {-1, MIN, MAX}) {
             check.due("no such place " + place, x.keepsFound(0, 0, place), PLACE);
             check.due("no such place for one " + place, x.keepsFound(1, 0, place), PLACE);
@@ -327,6 +402,8 @@ public final class ForetoldTests {
         for (int row : new int[] {-1, 8, MIN, MAX}) {
             check.due("no such row " + row, x.keepsFound(0, row, 0), BAD);
         }
+        check.promise(25, "KEEPS FOUND, as many ITEMS as the GIVER has plain PROMISES (KIND 1, as told) "
+            + "that are not SETTLED, of a ROW from i on.");
         PromiseScales y = Check.told("s0,1;g3;p0,0,0,0;p0,0,0,3;i0,0,0,5;");
         Check.put(y, 0, 0, 1);
         check.due("1 of 3 by 4, 5, 6; an if is no plain one", y.keepsFound(0, 0, 0), 16 + 32 + 64);
@@ -342,6 +419,7 @@ public final class ForetoldTests {
     }
 
     private static void promise26() {
+        check.promise(26, "FREE: above (what = 0), below (1).");
         isFree(0, 0, 0, 1);
         isFree(10, 0, 0, 1);
         isFree(5, 0, 0, 1);
@@ -354,6 +432,7 @@ public final class ForetoldTests {
         isFree(4, 2, 21, 25);
         isFree(9, 8, 56953279, 100000000);
         isFree(6, 8, 384064, 390625);
+        check.promise(26, "BAD.");
         PromiseScales x = new PromiseScales();
         for (int c : new int[] {-1, 11, MIN, MAX}) {
             check.due("no such c " + c, x.free(c, 1, 0), BAD);
@@ -367,6 +446,8 @@ public final class ForetoldTests {
     }
 
     private static void promise27And28() {
+        check.promise(27, "BAD; STATE: no SCALES.");
+        check.promise(28, "BAD; STATE: none was kept.");
         PromiseScales x = new PromiseScales();
         check.due("no scales", x.image(0), STATE);
         check.due("none was kept", x.restore(1), STATE);
@@ -378,6 +459,7 @@ public final class ForetoldTests {
         x.lay(1, 1);
         x.settle(0, 1);
         x.wax(5);
+        check.promise(27, "An IMAGE (0, 1) is kept of the SCALES: 1.");
         check.due("kept", x.image(0), 1);
         check.due("acts are left by it", x.count(7), 3);
         check.due("the other was not kept", x.restore(1), STATE);
@@ -389,6 +471,7 @@ public final class ForetoldTests {
         x.row(0, 0, 3);
         Check.feed(x, "s");
         x.wax(3);
+        check.promise(28, "The SCALES are as an IMAGE kept them (no ACT can be undone then): 1.");
         check.due("restored", x.restore(0), 1);
         check.due("no act", x.undo(), STATE);
         check.due("promises", x.count(1), 7);
@@ -410,10 +493,30 @@ public final class ForetoldTests {
         check.due("broken in it", x.promise(1, 5), 2);
         check.due("restored once more", x.restore(0), 1);
         check.due("as it was kept", x.promise(2, 5), 0);
+        check.due("the image is kept in place of the one before", againAndAgain(x), 1);
+        check.promise(27, "BAD; STATE: no SCALES.");
         check.due("BAD ahead of STATE", new PromiseScales().image(2), BAD);
+        check.due("STATE of the last", new PromiseScales().image(1), STATE);
+        check.promise(28, "BAD; STATE: none was kept.");
+        check.due("BAD ahead of STATE", new PromiseScales().restore(2), BAD);
+        check.due("STATE of the first", new PromiseScales().restore(0), STATE);
+        check.due("none was kept of the scales there are", Check.told(SEVEN).restore(0), STATE);
+    }
+
+    /** The wax of an image that is kept in place of another. */
+    private static int againAndAgain(PromiseScales x) {
+        x.wax(1);
+        x.image(0);
+        x.wax(2);
+        check.due("restored", x.restore(0), 1);
+        check.due("wax of it", x.count(5), 1);
+        x.wax(3);
+        check.due("restored once more", x.restore(0), 1);
+        return x.count(5);
     }
 
     private static void nothingChanges() {
+        check.terms(3, "FORETOLD (nothing changes).");
         PromiseScales x = Check.told(SEVEN);
         x.lay(0, 1);
         x.settle(3, 1);
@@ -432,6 +535,7 @@ public final class ForetoldTests {
 
     /** As many promises as there can be, and then, in their place, fewer. */
     private static void eightAndThenFewer() {
+        check.terms(1, "SCALES that are read stand in place of those before (none at first):");
         PromiseScales x = Check.told("s0,1;g10;p0,0,0,1;p0,0,1,2;p0,0,2,4;p0,0,3,8;p0,0,4,16;p0,0,5,0;p0,0,6,0;p0,1,6,3;");
         check.due("6 and 7", x.clash(0), 1);
         check.due("the first", x.clash(1), 55);
@@ -468,6 +572,7 @@ public final class ForetoldTests {
 
     /** What clashes or is settled in scales is not so in others, or when it is undone. */
     private static void bagsOfOtherScales() {
+        check.promise(17, "BAGS: how many (what = 0), the one with fewest (1); NONE.");
         PromiseScales x = Check.told("s0,1;g10;p0,0,0,2;p0,1,0,2;p0,1,1,2;");
         check.due("0 and 2; 1 and 2", x.bags(4, 0), 2);
         x.settle(2, 1);

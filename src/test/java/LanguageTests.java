@@ -93,6 +93,6 @@ public final class LanguageTests {
             String body = bodies.group();
             check.holds("sixty lines at most: " + body.lines().findFirst().orElse(""), body.lines().count() <= 60);
         }
-        check.holds("methods were met", met > 100);
+        check.holds("methods were met", met > 33);
     }
 }

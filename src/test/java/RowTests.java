@@ -11,8 +11,11 @@ public final class RowTests {
         face();
         promise1();
         promise2();
+        promise2Refusals();
         promise3();
+        promise3Refusals();
         promise4();
+        promise4Refusals();
         promise5();
         promise34();
         check.end();
@@ -26,6 +29,7 @@ public final class RowTests {
     }
 
     private static void promise1() {
+        check.promise(1, "No SCALES.");
         PromiseScales x = new PromiseScales();
         for (int what = 0; what <= 8; what++) {
             check.due("new count " + what, x.count(what), 0);
@@ -39,12 +43,22 @@ public final class RowTests {
         check.due("new keeps", x.keeps(0), BAD);
         check.due("new kind", x.kind(0), BAD);
         check.due("new restore", x.restore(0), STATE);
+        check.due("new image", x.image(0), STATE);
+        check.due("new wax", x.wax(0), STATE);
+        check.due("new bags", x.bags(0, 0), STATE);
+        check.due("new heaviest", x.heaviest(0, 0), STATE);
+        check.due("new found", x.found(0, 0, 1, 0), STATE);
+        check.due("new promise", x.promise(0, 0), BAD);
+        check.due("new lay", x.lay(0, 1), BAD);
+        check.due("new settle", x.settle(0, 1), BAD);
+        check.due("new prices", x.prices(0, 0), BAD);
         for (int row = 0; row < 8; row++) {
             check.due("new drop " + row, x.drop(row), NULL);
         }
     }
 
     private static void promise2() {
+        check.promise(2, "A ROW of a LANE with n ITEMS, in place of what is there: n.");
         PromiseScales x = new PromiseScales();
         check.due("row of none", x.row(0, 0, 0), 0);
         check.due("row of 40", x.row(7, 2, 40), 40);
@@ -61,6 +75,18 @@ public final class RowTests {
         for (int i = 0; i < 6; i += 2) {
             check.due("items are 0 anew", x.found(3, i, 1, 0), 1);
         }
+        check.due("of another lane, in its place", x.row(3, 0, 2), 2);
+        check.due("a byte now", x.set(3, 1, 128), -128);
+        check.due("no third", x.set(3, 2, 0), PLACE);
+        check.due("of none, in its place", x.row(3, 2, 0), 0);
+        check.due("no first", x.set(3, 0, 0), PLACE);
+        check.due("there it is all the same", x.drop(3), 0);
+    }
+
+    private static void promise2Refusals() {
+        check.promise(2, "BAD: ROW, LANE, n above 40; SIZE.");
+        PromiseScales x = new PromiseScales();
+        check.due("40 items", x.row(7, 2, 40), 40);
         for (int row : NO_ROWS) {
             check.due("no such row " + row, x.row(row, 0, 1), BAD);
             check.due("no such row, ahead of SIZE", x.row(row, 0, -1), BAD);
@@ -77,6 +103,7 @@ public final class RowTests {
     }
 
     private static void promise3() {
+        check.promise(3, "ITEM i becomes v, its lowest bits, as many as the LANE has (read with their sign): what it is then.");
         PromiseScales x = new PromiseScales();
         x.row(0, 0, 2);
         x.row(1, 1, 2);
@@ -91,6 +118,34 @@ public final class RowTests {
         check.due("short 128", x.set(1, 1, 128), 128);
         check.due("int least", x.set(2, 0, MIN), MIN);
         check.due("int most", x.set(2, 1, MAX), MAX);
+        check.due("byte of the least int", x.set(0, 0, MIN), 0);
+        check.due("byte of the most", x.set(0, 0, MAX), -1);
+        check.due("byte -128", x.set(0, 0, -128), -128);
+        check.due("byte 255", x.set(0, 0, 255), -1);
+        check.due("short of the least int", x.set(1, 0, MIN), 0);
+        check.due("short of the most", x.set(1, 0, MAX), -1);
+        check.due("short -32768", x.set(1, 0, -32768), -32768);
+        check.due("short -32769", x.set(1, 0, -32769), 32767);
+        for (int v = -128; v <= 127; v++) {
+            check.due("byte " + v + " and 512", x.set(0, 1, v + 512), v);
+        }
+        itemBecomes();
+    }
+
+    private static void itemBecomes() {
+        PromiseScales x = Check.told("s0,1;");
+        Check.put(x, 0, 0, 0, 0, 0);
+        x.set(0, 1, 5);
+        x.set(0, 3, 9);
+        items(x, "set", 0, 0, 5, 0, 9);
+        x.set(0, 1, 6);
+        items(x, "set again", 0, 0, 6, 0, 9);
+    }
+
+    private static void promise3Refusals() {
+        check.promise(3, "BAD: ROW; NULL; PLACE.");
+        PromiseScales x = new PromiseScales();
+        x.row(2, 2, 2);
         for (int row : NO_ROWS) {
             check.due("no such row " + row, x.set(row, 0, 1), BAD);
         }
@@ -101,6 +156,11 @@ public final class RowTests {
         }
         x.row(4, 2, 0);
         check.due("no place at all", x.set(4, 0, 1), PLACE);
+        check.due("the first place", x.set(2, 0, 1), 1);
+        check.due("the last place", x.set(2, 1, 1), 1);
+        x.row(4, 2, 40);
+        check.due("the last place of 40", x.set(4, 39, 1), 1);
+        check.due("the place behind 40", x.set(4, 40, 1), PLACE);
     }
 
     /** Tells what stands in a row of ints, by the wax that reads it: all are 0 to 9. */
@@ -113,6 +173,7 @@ public final class RowTests {
     }
 
     private static void promise4() {
+        check.promise(4, "n ITEMS of a from i on come to b from j on, as they were ahead: n.");
         PromiseScales x = Check.told("s0,1;");
         Check.put(x, 0, 1, 2, 3, 4, 5);
         Check.put(x, 1, 9, 9, 9, 9);
@@ -124,6 +185,27 @@ public final class RowTests {
         check.due("copy down within", x.copy(0, 1, 0, 0, 4), 4);
         items(x, "down within", 0, 1, 2, 3, 4, 4);
         check.due("all", x.copy(0, 0, 0, 0, 5), 5);
+        check.due("none at the ends", x.copy(0, 5, 1, 4, 0), 0);
+        x.row(2, 2, 40);
+        x.row(3, 2, 40);
+        x.set(2, 0, 8);
+        x.set(2, 39, 7);
+        check.due("all of 40", x.copy(2, 0, 3, 0, 40), 40);
+        x.copy(3, 39, 3, 1, 1);
+        items(x, "all of 40", 3, 8, 7, 0);
+        for (int lane = 0; lane <= 1; lane++) {
+            x.row(4, lane, 1);
+            x.row(5, lane, 1);
+            x.set(4, 0, 0x8080);
+            check.due("one of lane " + lane, x.copy(4, 0, 5, 0, 1), 1);
+        }
+    }
+
+    private static void promise4Refusals() {
+        check.promise(4, "BAD: ROWS; NULL; STORE; PLACE (i, j, n below 0, or beyond an end).");
+        PromiseScales x = Check.told("s0,1;");
+        Check.put(x, 0, 1, 2, 3, 4, 5);
+        Check.put(x, 1, 9, 9, 2, 3);
         check.due("none at the ends", x.copy(0, 5, 1, 4, 0), 0);
         check.due("none beyond an end", x.copy(0, 6, 1, 4, 0), PLACE);
         check.due("none beyond the other end", x.copy(0, 5, 1, 5, 0), PLACE);
@@ -156,6 +238,7 @@ public final class RowTests {
     }
 
     private static void promise5() {
+        check.promise(5, "A ROW is missing from now on: how many ITEMS it had.");
         PromiseScales x = new PromiseScales();
         x.row(5, 1, 7);
         x.row(6, 1, 0);
@@ -164,12 +247,21 @@ public final class RowTests {
         check.due("missing then", x.drop(5), NULL);
         check.due("missing for others", x.set(5, 0, 0), NULL);
         check.due("no rows", x.count(0), 0);
+        x.row(5, 2, 40);
+        check.due("drop one of 40", x.drop(5), 40);
+        x.row(5, 2, 2);
+        check.due("made anew, its items are 0", x.set(5, 1, 3), 3);
+        check.promise(5, "BAD; NULL.");
+        check.due("drop a missing one", x.drop(0), NULL);
+        check.due("and the last", x.drop(7), NULL);
         for (int row : NO_ROWS) {
             check.due("no such row " + row, x.drop(row), BAD);
         }
     }
 
     private static void promise34() {
+        check.promise(34, "Of the latest call with a ROW, or as(), that was not BAD, STATE, FULL: the number of its FINDING; "
+            + "0: it had none, or there was none.");
         PromiseScales x = Check.told("s0,1;g5;p0,0,0,20;");
         check.due("none yet", x.status(), 0);
         x.row(0, 0, -1);
@@ -221,9 +313,29 @@ public final class RowTests {
         check.due("keepsFound PLACE", x.status(), 2);
         x.keepsFound(0, 0, 0);
         check.due("keepsFound", x.status(), 0);
+        fill(x);
         PromiseScales y = new PromiseScales();
         y.drop(0);
         check.due("STATE", y.found(0, 0, 1, 0), STATE);
         check.due("STATE leaves it", y.status(), 1);
+    }
+
+    /** FULL leaves what there was, and so does what comes ahead of it. */
+    private static void fill(PromiseScales x) {
+        x.row(0, 0, -1);
+        for (int n = 0; n < 120; n++) {
+            x.feed(0);
+        }
+        check.due("a byte", x.status(), 4);
+        check.due("FULL", x.feed(0), FULL);
+        check.due("FULL leaves it", x.status(), 4);
+        x.wax(10);
+        x.lay(0, 0);
+        x.undo();
+        x.image(2);
+        x.restore(1);
+        x.trace(-1);
+        x.count(9);
+        check.due("other refusals leave it", x.status(), 4);
     }
 }

@@ -28,9 +28,11 @@ public final class ScalesTests {
     }
 
     private static void promise6() {
+        check.promise(6, "A byte (0 to 255) comes behind the tape: how many it has.");
         PromiseScales x = new PromiseScales();
         check.due("first", x.feed(0), 1);
         check.due("second", x.feed(255), 2);
+        check.promise(6, "BAD; FULL.");
         for (int letter : new int[] {-1, 256, MIN, MAX}) {
             check.due("no byte " + letter, x.feed(letter), BAD);
         }
@@ -41,9 +43,16 @@ public final class ScalesTests {
         check.due("full", x.feed(';'), FULL);
         check.due("BAD ahead of FULL", x.feed(256), BAD);
         check.due("120 on it", x.count(8), 120);
+        x.scales();
+        check.due("room anew", x.feed(255), 1);
+        PromiseScales y = new PromiseScales();
+        for (int letter = 0; letter <= 255; letter++) {
+            check.due("each byte " + letter, y.feed(letter), letter < 120 ? letter + 1 : FULL);
+        }
     }
 
     private static void promise7() {
+        check.promise(7, "The tape, empty then, is read: how many PROMISES there are.");
         PromiseScales x = new PromiseScales();
         check.due("a law alone", Check.tell(x, "s0,1;"), 0);
         check.due("empty then", x.count(8), 0);
@@ -56,12 +65,15 @@ public final class ScalesTests {
         x.settle(1, 1);
         x.image(1);
         x.row(2, 2, 2);
+        check.promise(7, "all stays, but the tape is empty then, and fault() tells this one.");
         check.due("a fault", Check.tell(x, "s0,1;z"), FAULT - 5);
         check.due("promises stay", x.count(1), 7);
         check.due("the pan stays", x.count(3), 1);
         check.due("settled stays", x.promise(1, 5), 1);
         check.due("acts stay", x.count(7), 2);
         check.due("empty after a fault", x.count(8), 0);
+        check.due("fault() tells it", x.fault(), 1);
+        check.promise(7, "The tape, empty then, is read: how many PROMISES there are.");
         check.due("in their place", Check.tell(x, "s09,05;g10;g00;p00,05,09,20;p1,0,0,0;"), 2);
         check.due("wax of two figures", x.count(5), 9);
         check.due("stick of two figures", x.count(6), 5);
@@ -73,6 +85,11 @@ public final class ScalesTests {
         check.due("rows stay", x.count(0), 1);
         check.due("images stay", x.restore(1), 1);
         check.due("as it was", x.count(1), 7);
+        String text = "s0,1;g5;";
+        for (int many = 0; many <= 8; many++) {
+            check.due("how many", Check.tell(new PromiseScales(), text), many);
+            text += "p0,0,0,0;";
+        }
     }
 
     private static void fault(String text, int place, int number) {
@@ -84,6 +101,7 @@ public final class ScalesTests {
     }
 
     private static void promise7Faults() {
+        check.promise(7, "-1000100 less the place of a FAULT:");
         fault("", 0, 1);
         fault("s", 1, 1);
         fault("s1", 2, 1);
@@ -163,6 +181,7 @@ public final class ScalesTests {
     }
 
     private static void promise8() {
+        check.promise(8, "The number of the latest FAULT; 0 before one.");
         PromiseScales x = new PromiseScales();
         check.due("before one", x.fault(), 0);
         Check.tell(x, "s0,1;");
@@ -173,17 +192,22 @@ public final class ScalesTests {
         check.due("2 yet", x.fault(), 2);
         Check.tell(x, "s0,1;g0;g0;g0;g0;g0;");
         check.due("3", x.fault(), 3);
+        x.image(0);
+        x.restore(0);
+        check.due("3 yet", x.fault(), 3);
         x.scales();
         check.due("1", x.fault(), 1);
     }
 
     private static void promise9() {
+        check.promise(9, "A PROMISE is LAID (1), or TAKEN (0): what the PAN READS.");
         PromiseScales x = Check.told(SEVEN);
         check.due("lay 0: 12 and 2, less 2", x.lay(0, 1), 12);
         check.due("lay 1: 20 and 2, less 1", x.lay(1, 1), 21);
-        check.due("is so", x.lay(1, 1), STATE);
         check.due("lay 6: 28 and 2", x.lay(6, 1), 30);
         check.due("take 0: 16 and 2", x.lay(0, 0), 18);
+        check.promise(9, "BAD; STATE: it is SETTLED, it is so.");
+        check.due("is so", x.lay(1, 1), STATE);
         check.due("is not there", x.lay(0, 0), STATE);
         check.due("never was", x.lay(4, 0), STATE);
         check.due("the pan", x.count(3), 66);
@@ -198,9 +222,17 @@ public final class ScalesTests {
         check.due("settled", x.lay(0, 1), STATE);
         check.due("settled, taken", x.lay(0, 0), STATE);
         check.due("BAD ahead of STATE", x.lay(0, 2), BAD);
+        x.settle(1, 1);
+        check.due("settled out of the pan", x.lay(1, 1), STATE);
+        check.due("settled out of the pan, taken", x.lay(1, 0), STATE);
+        check.due("no scales", new PromiseScales().lay(0, 1), BAD);
+        check.due("no promises", Check.told("s0,1;g5;").lay(0, 1), BAD);
+        check.due("the last of eight", Check.told("s0,1;g5;" + "p0,0,0,4;".repeat(8)).lay(7, 1), 2);
+        check.due("behind the last of eight", Check.told("s0,1;g5;" + "p0,0,0,4;".repeat(8)).lay(8, 1), BAD);
     }
 
     private static void promise10() {
+        check.promise(10, "A PROMISE is KEPT (1), or BROKEN (0): KEEPS of its GIVER.");
         PromiseScales x = Check.told(SEVEN);
         x.lay(0, 1);
         x.lay(1, 1);
@@ -209,6 +241,7 @@ public final class ScalesTests {
         check.due("kept weighs 20", x.promise(0, 4), 20);
         check.due("broken", x.settle(3, 0), 3);
         check.due("broken weighs 0", x.promise(3, 4), 0);
+        check.promise(10, "BAD; STATE: it is SETTLED.");
         check.due("again", x.settle(0, 1), STATE);
         check.due("again, the other way", x.settle(0, 0), STATE);
         check.due("again, one broken", x.settle(3, 1), STATE);
@@ -219,6 +252,8 @@ public final class ScalesTests {
             check.due("neither kept nor broken " + kept, x.settle(1, kept), BAD);
             check.due("ahead of STATE", x.settle(0, kept), BAD);
         }
+        check.due("no scales", new PromiseScales().settle(0, 1), BAD);
+        check.promise(10, "A PROMISE is KEPT (1), or BROKEN (0): KEEPS of its GIVER.");
         PromiseScales y = Check.told("s0,1;g9;g1;p0,0,0,0;p0,0,0,0;p1,0,0,0;p1,0,0,0;");
         check.due("10", y.settle(0, 1), 10);
         check.due("10 at most", y.settle(1, 1), 10);
@@ -227,14 +262,17 @@ public final class ScalesTests {
     }
 
     private static void promise11() {
+        check.promise(11, "BAD; STATE: no SCALES (ahead of BAD).");
         PromiseScales x = new PromiseScales();
         check.due("no scales", x.wax(0), STATE);
         check.due("no scales, ahead of BAD", x.wax(10), STATE);
         Check.tell(x, SEVEN);
+        check.promise(11, "WAX is n (0 to 9): what it was.");
         check.due("it was 2", x.wax(9), 2);
         check.due("it was 9", x.wax(0), 9);
         check.due("the same", x.wax(0), 0);
         check.due("each an act", x.count(7), 3);
+        check.promise(11, "BAD; STATE: no SCALES (ahead of BAD).");
         for (int n : new int[] {-1, 10, MIN, MAX}) {
             check.due("no such wax " + n, x.wax(n), BAD);
         }
@@ -243,8 +281,8 @@ public final class ScalesTests {
     }
 
     private static void promise12() {
+        check.promise(12, "The latest ACT is undone: how many can be undone yet.");
         PromiseScales x = Check.told(SEVEN);
-        check.due("none", x.undo(), STATE);
         x.lay(0, 1);
         x.lay(1, 1);
         x.settle(0, 1);
@@ -269,9 +307,28 @@ public final class ScalesTests {
         check.due("laid undone", x.undo(), 1);
         check.due("the other laid undone", x.undo(), 0);
         check.due("an empty pan", x.count(3), 0);
-        check.due("none more", x.undo(), STATE);
         undoOfMany();
         undoAtTheEnds();
+        noneToUndo(x);
+    }
+
+    private static void noneToUndo(PromiseScales x) {
+        check.promise(12, "STATE: none.");
+        check.due("none more", x.undo(), STATE);
+        check.due("no scales", new PromiseScales().undo(), STATE);
+        check.due("none yet", Check.told(SEVEN).undo(), STATE);
+        x.wax(3);
+        x.image(0);
+        check.due("an image leaves the one", x.undo(), 0);
+        x.wax(3);
+        x.restore(0);
+        check.due("none when restored", x.undo(), STATE);
+        x.wax(3);
+        Check.tell(x, "s0,1;");
+        check.due("none of other scales", x.undo(), STATE);
+        x.wax(3);
+        Check.tell(x, "s0,0;");
+        check.due("a fault leaves the one", x.undo(), 0);
     }
 
     private static void undoOfMany() {
@@ -300,10 +357,13 @@ public final class ScalesTests {
         check.due("10 is 10", x.keeps(0), 10);
         check.due("0 is 0", x.keeps(1), 0);
         check.due("it is not settled", x.promise(0, 5), 0);
+        check.due("nor is the other", x.promise(1, 5), 0);
         check.due("and can be settled", x.settle(0, 0), 9);
     }
 
     private static void promise13() {
+        check.promise(13, "Of a PROMISE: 0 GIVER, 1 DEED, 2 DAY, 3 LIKELY, 4 WEIGHT, 5 not SETTLED (0), KEPT (1), BROKEN (2), "
+            + "6 whether it is in the PAN (1, 0).");
         PromiseScales x = Check.told(SEVEN);
         int[][] want = {
             {0, 1, 3, 18, 12, 0, 0}, {0, 2, 3, 20, 8, 0, 0}, {1, 0, 5, 15, 3, 0, 0}, {1, 1, 5, 9, 6, 0, 0},
@@ -319,6 +379,8 @@ public final class ScalesTests {
         check.due("in the pan", x.promise(2, 6), 1);
         check.due("broken", x.promise(0, 5), 2);
         check.due("kept", x.promise(4, 5), 1);
+        check.promise(13, "BAD.");
+        check.due("no scales", new PromiseScales().promise(0, 0), BAD);
         for (int promise : new int[] {-1, 7, 8, MIN, MAX}) {
             check.due("no such promise " + promise, x.promise(promise, 0), BAD);
         }
@@ -360,33 +422,48 @@ public final class ScalesTests {
     }
 
     private static void promise14() {
+        check.promise(14, "KEEPS of a GIVER.");
         PromiseScales x = Check.told(SEVEN);
         check.due("first", x.keeps(0), 7);
         check.due("second", x.keeps(1), 4);
+        x.settle(2, 1);
+        check.due("second, by one kept", x.keeps(1), 5);
+        check.due("the last of four", Check.told("s0,1;g5;g6;g0;g10;").keeps(3), 10);
+        check.due("the one ahead of it", Check.told("s0,1;g5;g6;g0;g10;").keeps(2), 0);
+        check.promise(14, "BAD.");
+        check.due("no scales", new PromiseScales().keeps(0), BAD);
+        check.due("no givers", Check.told("s0,1;").keeps(0), BAD);
+        check.due("behind the last of four", Check.told("s0,1;g5;g6;g0;g10;").keeps(4), BAD);
         for (int giver : new int[] {-1, 2, 4, MIN, MAX}) {
             check.due("no such giver " + giver, x.keeps(giver), BAD);
         }
     }
 
     private static void promise15() {
-        PromiseScales x = new PromiseScales();
-        check.due("no scales, ahead of BAD", x.reads(-1), STATE);
-        Check.tell(x, SEVEN);
+        check.promise(15, "What a set of PROMISES (SETTLED ones, too) READS.");
+        PromiseScales x = Check.told(SEVEN);
         check.due("empty", x.reads(0), 0);
         check.due("12 and 2, less 2", x.reads(1), 12);
         check.due("3 and 2, less 2", x.reads(4), 3);
         check.due("all, 55 and 2", x.reads(127), 57);
-        check.due("beyond all", x.reads(128), BAD);
-        for (int set : new int[] {-1, 255, MIN, MAX}) {
-            check.due("no such set " + set, x.reads(set), BAD);
-        }
         x.settle(0, 1);
         check.due("a kept one, 20 and 2", x.reads(1), 21);
         x.settle(3, 0);
         check.due("a broken one", x.reads(8), 0);
+        check.due("both, 20 and 2", x.reads(9), 21);
+        check.due("all, 20, 16, 2, 0, 20, 4, 6 (keeps 8, 3) and 2, less 1", x.reads(127), 69);
         check.due("no promises", Check.told("s9,4;").reads(0), 8);
-        check.due("no such set of none", Check.told("s9,4;").reads(1), BAD);
         check.due("stick 1", Check.told("s9,1;").reads(0), 9);
         check.due("stick 5", Check.told("s9,5;").reads(0), 5);
+        check.promise(15, "BAD: no such set; STATE: no SCALES (ahead of BAD).");
+        for (int set : new int[] {-1, 128, 129, 255, 256, MIN, MAX}) {
+            check.due("no such set " + set, x.reads(set), BAD);
+            check.due("no scales, ahead of BAD " + set, new PromiseScales().reads(set), STATE);
+        }
+        check.due("no scales", new PromiseScales().reads(0), STATE);
+        check.due("no such set of none", Check.told("s9,4;").reads(1), BAD);
+        PromiseScales eight = Check.told("s0,1;g10;" + "p0,0,0,4;".repeat(8));
+        check.due("the set of eight", eight.reads(255), 32);
+        check.due("beyond eight", eight.reads(256), BAD);
     }
 }
