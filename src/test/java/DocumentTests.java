@@ -25,6 +25,10 @@ public final class DocumentTests {
     private static final Map<String, StringBuilder> left = new TreeMap<>();
 
     public static void main(String[] args) throws IOException {
+        if (!Files.exists(DOCUMENT)) {
+            System.out.println("DocumentTests: " + DOCUMENT + " is not there to be looked up");
+            return;
+        }
         String document = Files.readString(DOCUMENT);
         terms(document);
         promises(document);

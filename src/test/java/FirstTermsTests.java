@@ -261,7 +261,7 @@ public final class FirstTermsTests {
             check.due("byte " + n, x.feed(text.charAt(n - 1)), n);
             check.due("bytes", x.count(8), n);
         }
-        check.due("one more", x.feed(';'), FULL);
+        check.due("one more", x.feed('x'), FULL);
         check.due("all are read", x.scales(), 8);
         check.due("the last of them", x.promise(7, 3), 2);
         check.due("empty", x.count(8), 0);

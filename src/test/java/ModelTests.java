@@ -23,7 +23,31 @@ public final class ModelTests {
         for (int run = 1; run <= RUNS; run++) {
             new ModelTests(run).go();
         }
+        everyByte("s2,3;g7;p0,1,3,18;m0,05,09,20;");
         check.end();
+    }
+
+    /** A text with each byte at each place of it, in place of what stands there or ahead of it, or with none. */
+    private static void everyByte(String text) {
+        for (int place = 0; place <= text.length(); place++) {
+            String ahead = text.substring(0, place);
+            for (char b = 0; b < 256; b++) {
+                isReadAlike(ahead + b + text.substring(place));
+                isReadAlike(ahead + b + text.substring(Math.min(place + 1, text.length())));
+            }
+            isReadAlike(ahead + text.substring(Math.min(place + 1, text.length())));
+        }
+    }
+
+    private static void isReadAlike(String text) {
+        PromiseScales x = new PromiseScales();
+        Model m = new Model();
+        for (int i = 0; i < text.length(); i++) {
+            x.feed(text.charAt(i));
+            m.feed(text.charAt(i));
+        }
+        check.due("scales of " + text, x.scales(), m.scales());
+        check.due("fault of " + text, x.fault(), m.fault());
     }
 
     private void go() {

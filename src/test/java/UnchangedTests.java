@@ -29,7 +29,6 @@ public final class UnchangedTests {
             badAsked();
             states();
             findings();
-            faults();
             foretold();
             told();
         }
@@ -38,6 +37,11 @@ public final class UnchangedTests {
         fullTape();
         life = UnchangedTests::bare;
         withoutScales();
+        check.promise(7, "all stays, but the tape is empty then, and fault() tells this one.");
+        life = UnchangedTests::livedWithoutTape;
+        faults();
+        life = UnchangedTests::bareWithoutTape;
+        faults();
         check.end();
     }
 
@@ -45,8 +49,14 @@ public final class UnchangedTests {
 
     /** Some of all: rows, images, acts, settled ones, a pan, a trace, a fault, a finding, a tape. */
     private static PromiseScales lived() {
+        PromiseScales x = livedWithoutTape();
+        Check.feed(x, "s4");
+        return x;
+    }
+
+    private static PromiseScales livedWithoutTape() {
         PromiseScales x = new PromiseScales();
-        Check.tell(x, "s10");
+        Check.tell(x, "s");
         Check.tell(x, "s2,3;g7;g4;p0,1,3,18;i0,2,3,20;t1,0,5,15;o1,1,5,9;m0,3,8,4;");
         makeRows(x);
         x.lay(0, 1);
@@ -59,7 +69,6 @@ public final class UnchangedTests {
         x.settle(3, 1);
         x.wax(6);
         x.ask(0, 0);
-        Check.feed(x, "s4");
         x.as(0, 5);
         return x;
     }
@@ -96,10 +105,15 @@ public final class UnchangedTests {
 
     /** No scales yet, but rows, a tape, a fault, a finding. */
     private static PromiseScales bare() {
-        PromiseScales x = new PromiseScales();
-        Check.tell(x, "s10");
-        makeRows(x);
+        PromiseScales x = bareWithoutTape();
         Check.feed(x, "s4");
+        return x;
+    }
+
+    private static PromiseScales bareWithoutTape() {
+        PromiseScales x = new PromiseScales();
+        Check.tell(x, "s");
+        makeRows(x);
         x.set(0, 6, 0);
         return x;
     }
@@ -426,24 +440,16 @@ public final class UnchangedTests {
         found("as(0, 5)", x -> x.as(0, 5), KIND);
     }
 
-    /** By a fault the tape becomes empty, and fault() tells it; both are so ahead of it here, too. */
+    /** The tape is empty and the latest FAULT is 1 ahead of these, too, so that nothing else is left to differ. */
     private static void faults() {
-        check.promise(7, "all stays, but the tape is empty then, and fault() tells this one.");
-        Supplier<PromiseScales> before = life;
-        life = () -> {
-            PromiseScales x = before.get();
-            x.scales();
-            return x;
-        };
-        int fault = life.get().fault();
-        // The tape that was fed, with what is behind it: place 2, and place 5; then none at all.
-        check.due("this one", fault, 1);
-        unchanged("scales() of an empty tape", x -> x.scales(), -1000100, life.get().status());
-        for (String text : new String[] {"s4", "s4,1;x", "s4,1;g5;p0,0,0,0", "777", "\0"}) {
-            int place = text.equals("s4,1;x") ? 5 : text.equals("777") || text.equals("\0") ? 0 : text.length();
-            unchanged("scales() of " + text, x -> Check.tell(x, text), -1000100 - place, life.get().status());
+        int status = life.get().status();
+        unchanged("scales() of an empty tape", x -> x.scales(), -1000100, status);
+        for (String text : new String[] {"s", "s4", "s4,", "s4,1", "s4,1;g5;p0,0,0,0"}) {
+            unchanged("scales() of " + text, x -> Check.tell(x, text), -1000100 - text.length(), status);
         }
-        life = before;
+        unchanged("scales() of s4,1;x", x -> Check.tell(x, "s4,1;x"), -1000105, status);
+        unchanged("scales() of s4,1;g5;p0,0,0,0;g5;", x -> Check.tell(x, "s4,1;g5;p0,0,0,0;g5;"), -1000117, status);
+        unchanged("scales() of 777", x -> Check.tell(x, "777"), -1000100, status);
     }
 
     // ---- what changes nothing
