@@ -3,6 +3,8 @@ import java.util.Random;
 /** All promises: long runs of calls, drawn from fixed seeds, each answered as the model answers it. */
 public final class ModelTests {
     private static final int RUNS = 1500, CALLS = 512;
+    /** No more calls than an object is used for: what tell() and foundRow() can take. */
+    private static final int MOST_TO_TELL = 160, MOST_TO_FIND = 20;
     private static final int[] FAR = {Integer.MIN_VALUE, Integer.MIN_VALUE + 1, -1000000, -2, -1, 41, 121, 256, 1000,
         Integer.MAX_VALUE - 1, Integer.MAX_VALUE};
 
@@ -56,9 +58,9 @@ public final class ModelTests {
         }
         while (calls < CALLS) {
             int die = draw.nextInt(40);
-            if (die == 0 && draw.nextInt(3) == 0) {
+            if (die == 0 && draw.nextInt(3) == 0 && calls <= CALLS - MOST_TO_TELL) {
                 tell();
-            } else if (die < 3) {
+            } else if (die < 3 && calls <= CALLS - MOST_TO_FIND) {
                 foundRow();
             } else {
                 call(1 + draw.nextInt(33));
@@ -66,12 +68,9 @@ public final class ModelTests {
         }
     }
 
-    /** What an object answers behind its last call is free. */
     private void due(String call, int got, int want) {
         calls++;
-        if (calls <= CALLS) {
-            check.due("run " + run + " call " + calls + " " + call, got, want);
-        }
+        check.due("run " + run + " call " + calls + " " + call, got, want);
     }
 
     /** A number from 0 to most, now and then one beyond that or far off. */
