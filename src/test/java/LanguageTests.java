@@ -21,6 +21,8 @@ public final class LanguageTests {
         "import", "package", "volatile", "transient", "native", "hashCode", "toString", "getClass", "Object", "Math.\\w+Exact",
         "System.(?!arraycopy)", "->", "::", "@", "\\\""};
 
+    private static final Pattern CONSTRUCTOR = Pattern.compile("((public|private) )?[A-Z]\\w*\\(.*\\) \\{");
+
     private static final Check check = new Check("LanguageTests");
 
     public static void main(String[] args) throws IOException {
@@ -91,7 +93,10 @@ public final class LanguageTests {
         while (bodies.find()) {
             met++;
             String body = bodies.group();
-            check.holds("sixty lines at most: " + body.lines().findFirst().orElse(""), body.lines().count() <= 60);
+            String head = body.lines().findFirst().orElse("").trim();
+            check.holds("sixty lines at most: " + head, body.lines().count() <= 60);
+            boolean makes = Pattern.compile("\\bnew\\b").matcher(body).find();
+            check.holds("only a constructor makes objects: " + head, !makes || CONSTRUCTOR.matcher(head).matches());
         }
         check.holds("methods were met", met > 33);
     }
